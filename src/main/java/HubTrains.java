@@ -382,14 +382,6 @@ public final class HubTrains {
             tracks.takeOver(other.tracks);
         }
 
-        /** Leaves nothing of an earlier game to a setup that is read into this one. */
-        void clear() {
-            rounds = 0;
-            formula = null;
-            Arrays.fill(totals, 0);
-            clearHands();
-        }
-
         void clearHands() {
             Arrays.fill(holders, NONE);
         }
@@ -497,7 +489,7 @@ public final class HubTrains {
         private int playsOf(int tile) {
             int plays = 0;
             for (int train = 0; train <= players; train++) {
-                if (canPlay(tile, train)) {
+                if (obstacle(tile, train) == 0) {
                     plays++;
                 }
             }
@@ -529,7 +521,8 @@ public final class HubTrains {
             if (told == null) {
                 return pipsOf(tile);
             }
-            return told.value(tile, train == turn, train == players, handCount(turn) - 1);
+            int left = handCount(turn) - 1;
+            return told.value(pipsOf(tile), isDouble(tile), train == turn, train == players, left);
         }
 
         /** 10 * tile + train; tiles and trains come in order, so only a greater rank takes the place of the first. */
@@ -541,7 +534,7 @@ public final class HubTrains {
                     continue;
                 }
                 for (int train = 0; train <= players; train++) {
-                    if (canPlay(code, train)) {
+                    if (obstacle(code, train) == 0) {
                         int itsRank = rankOf(code, train);
                         if (bestSoFar == NONE || itsRank > greatestRank) {
                             bestSoFar = 10 * code + train;
@@ -832,7 +825,7 @@ public final class HubTrains {
             steps = Arrays.copyOf(from, Math.max(0, Math.min(count, from.length)));
         }
 
-        int value(int tile, boolean own, boolean isPublic, int left) {
+        int value(int pips, boolean isDouble, boolean own, boolean isPublic, int left) {
             int top = 0;
             for (int k = 0; k < steps.length; k++) {
                 int step = steps[k];
@@ -840,17 +833,17 @@ public final class HubTrains {
                     top--;
                     put(waiting, top - 1, result(step, look(waiting, top - 1), look(waiting, top)));
                 } else {
-                    put(waiting, top, operand(step, tile, own, isPublic, left));
+                    put(waiting, top, operand(step, pips, isDouble, own, isPublic, left));
                     top++;
                 }
             }
             return look(waiting, 0);
         }
 
-        private static int operand(int step, int tile, boolean own, boolean isPublic, int left) {
+        private static int operand(int step, int pips, boolean isDouble, boolean own, boolean isPublic, int left) {
             switch (step) {
-                case PIPS: return pipsOf(tile);
-                case DOUBLE: return isDouble(tile) ? 1 : 0;
+                case PIPS: return pips;
+                case DOUBLE: return isDouble ? 1 : 0;
                 case OWN: return own ? 1 : 0;
                 case PUBLIC: return isPublic ? 1 : 0;
                 case LEFT: return left;
@@ -884,6 +877,8 @@ public final class HubTrains {
         private int kind;
         private int start;
         private int end;
+        /** That of a token of kind NUMBER; one above all ranges stands for each greater one too. */
+        private int number;
 
         void store(int word) {
             for (int shift = 24; shift >= 0 && stored < bytes.length; shift -= 8) {
@@ -900,13 +895,15 @@ public final class HubTrains {
 
         /** Behind the last token stands one of kind END, at the length of the text. */
         void advance() {
+            int stop = length < bytes.length ? length : bytes.length;
             start = end;
-            int stop = Math.min(length, bytes.length);
             while (start >= 0 && start < stop && bytes[start] == ' ') {
                 start++;
             }
             end = start;
+            number = 0;
             while (end >= 0 && end < stop && bytes[end] >= '0' && bytes[end] <= '9') {
+                number = number < ABOVE_ALL_RANGES ? 10 * number + bytes[end] - '0' : number;
                 end++;
             }
             if (end > start) {
@@ -921,36 +918,27 @@ public final class HubTrains {
                 return;
             }
             kind = start < stop ? SIGN : END;
-            end = Math.min(start + 1, stop);
+            end = start < stop ? start + 1 : stop;
         }
 
         boolean isNumber() {
             return kind == NUMBER;
         }
 
-        /** A number of any length is held, as all that are too long for an int are outside of each range alike. */
-        int number() {
-            int number = 0;
-            for (int k = start; k < end; k++) {
-                number = Math.min(10 * number + look(bytes, k) - '0', ABOVE_ALL_RANGES);
-            }
-            return number;
-        }
-
         boolean isWord(String word) {
             if (kind != WORD || end - start != word.length()) {
                 return false;
             }
+            boolean same = true;
             for (int k = 0; k < word.length(); k++) {
-                if (look(bytes, start + k) != word.charAt(k)) {
-                    return false;
-                }
+                int at = start + k;
+                same = same && at >= 0 && at < bytes.length && bytes[at] == word.charAt(k);
             }
-            return true;
+            return same;
         }
 
         boolean isSign(char sign) {
-            return kind == SIGN && look(bytes, start) == sign;
+            return kind == SIGN && start >= 0 && start < bytes.length && bytes[start] == sign;
         }
     }
 
@@ -973,10 +961,12 @@ public final class HubTrains {
 
         /** Returns the code of the first error, or 0; the input buffer is empty then. */
         int read(int length) {
-            game.clear();
+            game.clearHands();
+            game.formula = null;
             hubTold = false;
             seedTold = false;
             rankTold = false;
+            stepCount = 0;
             tilesGiven = false;
             error = 0;
             errorOffset = NONE;
@@ -985,13 +975,16 @@ public final class HubTrains {
             for (int more = 0; fine && tokens.kind != Tokens.END && more < MOST_BYTES; more++) {
                 fine = readStatement() && takeSign(';');
             }
+            if (fine && rankTold) {
+                game.formula = new Formula(steps, stepCount);
+            }
             tokens.stored = 0;
             return error;
         }
 
         private boolean readHead() {
             if (!tokens.isWord("trains")) {
-                return fail(SYNTAX_ERROR);
+                return fail(SYNTAX_ERROR, tokens.start);
             }
             tokens.advance();
             if (!takeNumber(3, 9)) {
@@ -1022,9 +1015,11 @@ public final class HubTrains {
                 return readGive();
             }
             if (tokens.isWord("rank") && !rankTold) {
-                return readRank();
+                rankTold = true;
+                tokens.advance();
+                return readSum(0);
             }
-            return fail(SYNTAX_ERROR);
+            return fail(SYNTAX_ERROR, tokens.start);
         }
 
         private boolean readHub() {
@@ -1072,23 +1067,12 @@ public final class HubTrains {
             }
             int code = 10 * Math.min(one, number) + Math.max(one, number);
             if (!game.isFree(code)) {
-                return failAt(REPEATED, offset);
+                return fail(REPEATED, offset);
             }
             if (game.handCount(player) >= game.handSize) {
-                return failAt(TOO_MANY, offset);
+                return fail(TOO_MANY, offset);
             }
             put(game.holders, code, player);
-            return true;
-        }
-
-        private boolean readRank() {
-            rankTold = true;
-            stepCount = 0;
-            tokens.advance();
-            if (!readSum(0)) {
-                return false;
-            }
-            game.formula = new Formula(steps, stepCount);
             return true;
         }
 
@@ -1118,7 +1102,7 @@ public final class HubTrains {
         private boolean readFactor(int depth) {
             if (tokens.isSign('(')) {
                 if (depth >= MOST_PARENTHESES) {
-                    return fail(TOO_DEEP);
+                    return fail(TOO_DEEP, tokens.start);
                 }
                 tokens.advance();
                 return readSum(depth + 1) && takeSign(')');
@@ -1132,7 +1116,7 @@ public final class HubTrains {
             }
             int variable = variableHere();
             if (variable == 0) {
-                return fail(SYNTAX_ERROR);
+                return fail(SYNTAX_ERROR, tokens.start);
             }
             tokens.advance();
             addStep(variable);
@@ -1165,11 +1149,11 @@ public final class HubTrains {
 
         private boolean takeNumber(int least, int most) {
             if (!tokens.isNumber()) {
-                return fail(SYNTAX_ERROR);
+                return fail(SYNTAX_ERROR, tokens.start);
             }
-            number = tokens.number();
+            number = tokens.number;
             if (number < least || number > most) {
-                return fail(OUT_OF_RANGE);
+                return fail(OUT_OF_RANGE, tokens.start);
             }
             tokens.advance();
             return true;
@@ -1177,17 +1161,13 @@ public final class HubTrains {
 
         private boolean takeSign(char sign) {
             if (!tokens.isSign(sign)) {
-                return fail(SYNTAX_ERROR);
+                return fail(SYNTAX_ERROR, tokens.start);
             }
             tokens.advance();
             return true;
         }
 
-        private boolean fail(int code) {
-            return failAt(code, tokens.start);
-        }
-
-        private boolean failAt(int code, int offset) {
+        private boolean fail(int code, int offset) {
             error = code;
             errorOffset = offset;
             return false;

@@ -141,7 +141,8 @@ public final class PromiseTest {
         checks.same("3: the seed stays", t.state(12), 1);
         checks.same("3: too few tiles", Checks.load(t, "trains 3 4 12;"), 0);
         checks.same("3: the first takes all", t.player(0, 0) + " " + t.player(1, 0), "9 0");
-        checks.same("3: words and numbers side by side", Checks.load(t, "trains3 2 1;hub0;seed5;give1 1-2;rank2*pips;"), 7);
+        checks.same("3: words and numbers side by side",
+                Checks.load(t, "trains3 2 1;hub0;seed5;give1 1-2;rank2*pips;"), 7);
         checks.same("3: spaces", Checks.load(t, "  trains  3  2  1  ;  give  1  1  -  2  2-1;  "), HubTrains.REPEATED);
         checks.same("3: spaces", Checks.load(t, "  trains  3  2  1  ;  give  1  1  -  2  ;   "), 7);
         checks.same("3: leading zeros", Checks.load(t, "trains 003 0000000000000002 01;seed 00000000009999;"), 7);
@@ -300,6 +301,7 @@ public final class PromiseTest {
         t.play(33, 2);
         t.play(13, 2);
         checks.same("5: the hand is empty", states(t), "3 2 4 0 1 0 -1 0 1 1 0 0 1");
+        checks.same("23: player 0 is on turn then", t.deal(1, 1) + " " + t.state(4), "1 0");
     }
 
     private static void playerPromise() {
@@ -471,8 +473,8 @@ public final class PromiseTest {
         checks.same("12: without a statement the pips", Checks.loaded(ROWS).rank(3, 2), 3);
         HubTrains three = Checks.loaded(THREE + "rank own*2+public;");
         three.pass();
-        checks.same("12: an open one of another is neither", three.rank(1, 0) + "" + three.rank(1, 1) + three.rank(1, 3),
-                "021");
+        checks.same("12: an open one of another is neither",
+                three.rank(1, 0) + " " + three.rank(1, 1) + " " + three.rank(1, 3), "0 2 1");
         checks.answers("12: no such train", INDEX, () -> t.rank(3, 3));
         checks.answers("12: the train first", INDEX, () -> t.rank(44, -1));
         checks.answers("12: no such tile", ARGUMENT, () -> t.rank(44, 0));
@@ -553,8 +555,8 @@ public final class PromiseTest {
         second.auto(200);
         checks.same("16: the second", second.player(1, 1) < second.player(0, 1), true);
         checks.same("16: the second", second.winner(), 1);
-        HubTrains equal = Checks.loaded("trains 3 3 3; hub 0; give 0 1-2 3-3 1-1; give 1 0-1 0-2 2-2; give 2 0-3 1-3 2-3;");
-        checks.same("16: of equal hands the smallest index", equal.winner(), winnerByAuto(equal));
+        HubTrains three = Checks.loaded(THREE);
+        checks.same("16: three hands", three.winner(), winnerByAuto(three));
         checks.same("16: by a rank", Checks.loaded(ROWS + "rank 0-pips;").winner(),
                 winnerByAuto(Checks.loaded(ROWS + "rank 0-pips;")));
     }
@@ -674,10 +676,10 @@ public final class PromiseTest {
         t.draw();
         t.play(1, 2);
         checks.same("19: the next did not draw", t.state(5), 0);
-        HubTrains two = Checks.loaded("trains 3 2 3; seed 5; give 0 0-0 1-1 2-2; give 1 0-1 0-2 1-2;");
-        int drawn = two.draw();
-        two.play(drawn, 0);
-        checks.same("19: the next player did not draw", two.state(4) + " " + two.state(5), "1 0");
+        HubTrains two = played("trains 3 2 4; hub 0; give 0 2-2 3-3 2-3 0-2; give 1 0-1 0-3 1-2 1-3;", 2, 2, 12, 2);
+        checks.same("19: a double is drawn", two.draw() + " " + two.state(5), "11 1");
+        two.play(11, 2);
+        checks.same("19: behind it the player did not draw", two.state(4) + " " + two.state(5), "0 0");
     }
 
     private static void drawPromise() {
@@ -754,9 +756,16 @@ public final class PromiseTest {
         HubTrains open = Checks.loaded(THREE);
         open.auto(200);
         open.deal(0, 5);
-        checks.same("23: trains are closed", open.train(0, 2) + "" + open.train(1, 2) + open.train(2, 2) + open.train(3, 2),
-                "0001");
+        checks.same("23: trains are closed", trainNumbers(open, 0), "0 0 0 -1 0");
+        checks.same("23: trains are closed", trainNumbers(open, 1), "0 0 0 -1 0");
+        checks.same("23: the public one is open", trainNumbers(open, 3), "0 0 1 -1 0");
         checks.same("23: rounds", open.state(9), 1);
+        HubTrains doubles = played(DOUBLES, 13, 2, 12, 2, 2, 2, 23, 1, 0, 2);
+        doubles.auto(5);
+        checks.same("23: over by passes", doubles.state(6) + " " + doubles.state(11), "1 2");
+        doubles.deal(2, 1);
+        checks.same("23: nothing is left of it",
+                doubles.state(6) + " " + doubles.state(11) + " " + doubles.state(8), "-1 0 0");
         HubTrains large = Checks.loaded("trains 9 4 12; seed 3;");
         large.auto(200);
         checks.same("23: the greatest number", large.deal(9, 9999), 6);
