@@ -1,30 +1,11 @@
 /** For each promise of the document: ordinary inputs, the edges that it names, and wrong inputs, worked out by hand. */
-public final class PromiseTest {
+public final class PromiseTest extends Scenes {
     private static final Checks checks = new Checks("PromiseTest");
-    private static final String INDEX = "throws.IndexOutOfBoundsException";
-    private static final String ARGUMENT = "throws.IllegalArgumentException";
-    private static final String STATE = "throws.IllegalStateException";
-    private static final String ELEMENT = "throws.NoSuchElementException";
-    private static final int MIN = Integer.MIN_VALUE;
-    private static final int MAX = Integer.MAX_VALUE;
-
-    /** Hub 3; player 0 has 01 03 11 22, player 1 has 00 12 13 23; the stock is 02. */
-    private static final String ROWS = "trains 3 2 4; give 0 0-3 1-0 1-1 2-2; give 1 0-0 3-1 1-2 2-3;";
-    /** Hub 3; player 0 has 00 02 11 13, player 1 has 03 12 22 23; the stock is 01. */
-    private static final String DOUBLES = "trains 3 2 4; give 0 1-3 1-1 0-0 0-2; give 1 0-3 2-3 2-2 1-2;";
-    /** Hub 0; player 0 has 12 22 33, player 1 has 01 11 13, player 2 has 02 03 23; there is no stock. */
-    private static final String THREE =
-            "trains 3 3 3; hub 0; give 0 1-2 2-2 3-3; give 1 0-1 1-1 1-3; give 2 0-2 0-3 2-3;";
-
-    /** Hub 4; 11 tiles of player 0, in a row that comes back to the hub, and one more to be told. */
-    private static final String TWELVE =
-            "trains 4 2 12; hub 4; give 0 0-0 1-1 2-2 3-3 0-1 1-2 0-3 0-2 1-3 0-4 1-4 ";
 
     public static void main(String[] args) {
         aNewObject();
         appendPromise();
         loadPromise();
-        loadErrors();
         errorOffsetPromise();
         statePromise();
         playerPromise();
@@ -48,47 +29,6 @@ public final class PromiseTest {
         undoPromise();
         checksumPromise();
         checks.end();
-    }
-
-    private static String states(HubTrains t) {
-        StringBuilder all = new StringBuilder();
-        for (int what = 0; what <= 12; what++) {
-            all.append(what == 0 ? "" : " ").append(t.state(what));
-        }
-        return all.toString();
-    }
-
-    private static String hand(HubTrains t, int player) {
-        StringBuilder all = new StringBuilder();
-        for (int k = 0; k < t.player(player, 0); k++) {
-            all.append(k == 0 ? "" : " ").append(t.tile(player, k));
-        }
-        return all.toString();
-    }
-
-    private static String row(HubTrains t, int player) {
-        StringBuilder all = new StringBuilder();
-        for (int k = 0; k < t.longest(player); k++) {
-            all.append(k == 0 ? "" : " ").append(t.longestTile(player, k));
-        }
-        return all.toString();
-    }
-
-    private static String trainNumbers(HubTrains t, int train) {
-        StringBuilder all = new StringBuilder();
-        for (int what = 0; what <= 4; what++) {
-            all.append(what == 0 ? "" : " ").append(t.train(train, what));
-        }
-        return all.toString();
-    }
-
-    /** The tiles and trains of plays, one behind the other. */
-    private static HubTrains played(String setup, int... plays) {
-        HubTrains t = Checks.loaded(setup);
-        for (int k = 0; k + 1 < plays.length; k += 2) {
-            t.play(plays[k], plays[k + 1]);
-        }
-        return t;
     }
 
     private static void aNewObject() {
@@ -169,80 +109,6 @@ public final class PromiseTest {
         checks.same("3: totals and rounds are 0", t.state(9) + " " + t.state(8) + " " + t.player(1, 2), "0 0 0");
         checks.same("3: trains are empty", t.train(0, 0), 0);
         checks.same("3: no expression", t.rank(3, 0), 3);
-    }
-
-    private static void error(String text, int code, int offset) {
-        HubTrains t = new HubTrains();
-        checks.same("3: load of <" + text + ">", Checks.load(t, text), code);
-        checks.same("3: error offset of <" + text + ">", t.errorOffset(), offset);
-    }
-
-    private static void loadErrors() {
-        int syntax = HubTrains.SYNTAX_ERROR;
-        error("x", syntax, 0);
-        error("  trains", syntax, 8);
-        error("  ", syntax, 2);
-        error("train 3 2 1;", syntax, 0);
-        error("trainss 3 2 1;", syntax, 0);
-        error("Trains 3 2 1;", syntax, 0);
-        error("trains 3 2 1", syntax, 12);
-        error("trains 3 2 1  ", syntax, 14);
-        error("trains 3 2 1 ;;", syntax, 14);
-        error("trains 3 2;", syntax, 10);
-        error("trains 321;", HubTrains.OUT_OF_RANGE, 7);
-        error("trains 3\t2 1;", syntax, 8);
-        error("trains 3 2 1; foo 3;", syntax, 14);
-        error("trains 3 2 1; hubs 3;", syntax, 14);
-        error("trains 3 2 1; trains 3 2 1;", syntax, 14);
-        error("trains 3 2 1; hub 3; hub 3;", syntax, 21);
-        error("trains 3 2 1; seed 3; seed 3;", syntax, 22);
-        error("trains 3 2 1; rank 3; rank 3;", syntax, 22);
-        error("trains 3 2 1; give 0 0-1; hub 3;", syntax, 26);
-        error("trains 3 2 1; give 0;", syntax, 20);
-        error("trains 3 2 1; give 0 1;", syntax, 22);
-        error("trains 3 2 1; give 0 1-;", syntax, 23);
-        error("trains 3 2 2; give 0 1-2 3;", syntax, 26);
-        error("trains 3 2 1; rank ;", syntax, 19);
-        error("trains 3 2 1; rank pip;", syntax, 19);
-        error("trains 3 2 1; rank -1;", syntax, 19);
-        error("trains 3 2 1; rank 1+;", syntax, 21);
-        error("trains 3 2 1; rank 1 2;", syntax, 21);
-        error("trains 3 2 1; rank (1;", syntax, 21);
-        error("trains 3 2 1; rank 1);", syntax, 20);
-        error("trains 3 2 1; rank ();", syntax, 20);
-        error("trains 3 2 1; rank ((((1(", syntax, 24);
-        int range = HubTrains.OUT_OF_RANGE;
-        error("trains 2 2 1;", range, 7);
-        error("trains 10 2 1;", range, 7);
-        error("trains 3 1 1;", range, 9);
-        error("trains 3 5 1;", range, 9);
-        error("trains 3 2 0;", range, 11);
-        error("trains 3 2 13;", range, 11);
-        error("trains 3 2 0004294967297;", range, 11);
-        error("trains 3 2 18446744073709551617;", range, 11);
-        error("trains 3 2 1; hub 4;", range, 18);
-        error("trains 3 2 1; seed 10000 x", range, 19);
-        error("trains 3 2 1; give 2 0-0;", range, 19);
-        error("trains 3 2 1; give 0 4-0;", range, 21);
-        error("trains 3 2 1; give 0 0- 4;", range, 24);
-        error("trains 3 2 1; rank 10000;", range, 19);
-        int repeated = HubTrains.REPEATED;
-        error("trains 3 2 2; give 0 1-2 2-1;", repeated, 25);
-        error("trains 3 2 2; give 0 1-2; give 1 0-0 2 - 1x", repeated, 37);
-        error("trains 3 2 1; give 0 3-3;", repeated, 21);
-        error("trains 3 2 1; hub 1; give 0 1-1;", repeated, 28);
-        error("trains 3 2 1; give 0 1-2 1-2;", repeated, 25);
-        error("trains 3 2 1; give 0 1-2 1-4;", range, 27);
-        error("trains 3 2 1; give 0 1-2 1-;", syntax, 27);
-        int many = HubTrains.TOO_MANY;
-        error("trains 3 2 1; give 0 1-2 0-0;", many, 25);
-        error("trains 3 2 2; give 0 1-2 0-0; give 0 2-3;", many, 37);
-        error("trains 3 2 1; rank (((((1)))));", HubTrains.TOO_DEEP, 23);
-        error("trains 3 2 1; rank 1+(2*(3+(4*(5+(6", HubTrains.TOO_DEEP, 33);
-        checks.same("3: four are not too deep",
-                Checks.load(new HubTrains(), "trains 3 2 1; rank ((((1))))*((((2))))+(1+(2+(3+(4))));"), 7);
-        checks.same("3: the double of the greatest may be given behind a hub",
-                Checks.load(new HubTrains(), "trains 3 2 1; hub 1; give 0 3-3;"), 7);
     }
 
     private static void errorOffsetPromise() {
@@ -485,14 +351,6 @@ public final class PromiseTest {
         checks.answers("12: over", ELEMENT, () -> played("trains 3 2 1; give 0 0-3; give 1 2-3;", 3, 0).rank(23, 0));
     }
 
-    /** A hand grows above 12 by draws. */
-    private static HubTrains largeHand() {
-        HubTrains t = Checks.loaded("trains 9 2 12; hub 0; give 0 1-1 2-2 3-3 4-4 5-5 6-6 7-7 8-8 9-9 8-9 7-9 6-9;"
-                + "give 1 1-2 1-3 1-4 1-5 1-6 1-7 1-8 1-9 2-3 2-4 2-5 2-6;");
-        t.draw();
-        return t;
-    }
-
     private static void longestPromise() {
         HubTrains t = Checks.loaded(ROWS);
         checks.same("13: of the player on turn", t.longest(0), 3);
@@ -612,16 +470,10 @@ public final class PromiseTest {
         checks.same("19: the last on the open one of the other", t.play(23, 1) + " " + t.state(8), "2 1");
         checks.same("18: no tiles", t.meanPips(), 0.0);
         checks.same("16: of empty hands the first", t.winner(), 0);
-        HubTrains stuck = Checks.loaded("trains 3 2 9;");
-        for (int tile : new int[] {3, 0, 1, 11, 12, 22, 23, 13}) {
-            stuck.play(tile, 0);
-            if (tile / 10 != tile % 10) {
-                stuck.pass();
-            }
-        }
-        checks.same("18: the last tile", stuck.meanPips(), 2.0);
-        checks.same("21: all passed", stuck.pass() + " " + stuck.state(8) + " " + stuck.state(11), "0 1 2");
-        checks.same("16: an empty hand has the fewest pips", stuck.winner(), 1);
+        HubTrains last = alone(3, 0, 1, 11, 12, 22, 23, 13);
+        checks.same("18: the last tile", last.meanPips(), 2.0);
+        checks.same("21: all passed", last.pass() + " " + last.state(8) + " " + last.state(11), "0 1 2");
+        checks.same("16: an empty hand has the fewest pips", last.winner(), 1);
     }
 
     private static void playPromise() {
