@@ -82,6 +82,9 @@ public final class AnswersTest extends Scenes {
         t.pass();
         checks.same("a tile on three trains", t.state(10), 3);
         checks.same("nine tiles, three of which fit on two trains", Checks.loaded("trains 3 2 9;").state(10), 6);
+        HubTrains zero = alone(3, 1, 13, 23, 2);
+        checks.same("00 alone", zero.state(10) + " " + zero.player(0, 3) + " " + zero.best(), "1 1 0");
+        checks.answers("it has to be played", STATE, () -> zero.pass());
     }
 
     private static void passesSoFar() {
@@ -418,6 +421,11 @@ public final class AnswersTest extends Scenes {
         none.pass();
         checks.same("no stock", none.deal(2, 5) + " " + none.player(0, 0) + " " + none.player(1, 0), "0 9 0");
         checks.same("rounds", none.state(9), 1);
+        for (int train = 0; train <= 2; train++) {
+            int empty = train;
+            checks.same("an empty train", trainNumbers(none, train), "0 2 " + train / 2 + " -1 0");
+            checks.answers("no tile of it", ELEMENT, () -> none.laid(empty, 0));
+        }
     }
 
     private static void theChecksumWraps() {

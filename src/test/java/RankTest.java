@@ -15,6 +15,7 @@ public final class RankTest extends Scenes {
         divisionTruncatesTowardZero();
         divisionByZeroGivesZero();
         operationsAreMadeFromTheLeft();
+        onlyTheExpressionOfTheLatestSetup();
         productsBeforeSums();
         sumsAreLimited();
         differencesAreLimited();
@@ -110,6 +111,19 @@ public final class RankTest extends Scenes {
         rank("100/7/2", 7);
         rank("7/2*2", 6);
         rank("7*2/4", 3);
+    }
+
+    private static void onlyTheExpressionOfTheLatestSetup() {
+        HubTrains t = Checks.loaded(ROWS + "rank 1+2*(3+4);");
+        checks.same("a long one", t.rank(3, 0), 15);
+        Checks.load(t, ROWS + "rank 7;");
+        checks.same("a shorter one behind it", t.rank(3, 0), 7);
+        Checks.load(t, ROWS + "rank 1+2+3+4+5x");
+        checks.same("one with an error behind it", t.rank(3, 0), 7);
+        Checks.load(t, ROWS + "rank 8-2;");
+        checks.same("one behind an error", t.rank(3, 0), 6);
+        t.undo();
+        checks.same("the one before", t.rank(3, 0), 7);
     }
 
     private static void productsBeforeSums() {

@@ -130,6 +130,10 @@ public final class SetupTest extends Scenes {
         checks.same("a number that is cut", t.load(12) + " at " + t.errorOffset(), SYNTAX + " at 12");
         Checks.append(t, "trains 3 2 1;");
         checks.same("none", t.load(0) + " at " + t.errorOffset(), SYNTAX + " at 0");
+        Checks.append(t, "  trains 3 2 1;");
+        checks.same("none of spaces", t.load(0) + " at " + t.errorOffset(), SYNTAX + " at 0");
+        Checks.append(t, "  trains 3 2 1;");
+        checks.same("one space", t.load(1) + " at " + t.errorOffset(), SYNTAX + " at 1");
     }
 
     private static void theBufferIsEmptyAfterwards() {
@@ -426,6 +430,8 @@ public final class SetupTest extends Scenes {
         error(";", SYNTAX, 0);
         error("3", SYNTAX, 0);
         error("hub 3;", SYNTAX, 0);
+        error("hub 10;", SYNTAX, 0);
+        error("seed 10000;", SYNTAX, 0);
         error("trains;", SYNTAX, 6);
         error("trains 3 2;", SYNTAX, 10);
         error("trains 3 2 1 1;", SYNTAX, 13);
