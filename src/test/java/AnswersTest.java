@@ -429,26 +429,34 @@ public final class AnswersTest extends Scenes {
     }
 
     private static void theChecksumWraps() {
+        checksum("a new object", new HubTrains());
+        checksum("four hands of 12", Checks.loaded("trains 9 4 12; seed 77;"));
+        checksum("an empty hand", roundOver());
+        checksum("three empty hands", Checks.loaded("trains 3 4 12;"));
+        checksum("13 tiles in a hand", largeHand());
+        checksum("passes and a double", stuck());
+    }
+
+    private static void checksum(String name, HubTrains t) {
         BigInteger sum = BigInteger.ZERO;
-        HubTrains t = Checks.loaded("trains 9 4 12; seed 77;");
         for (int what = 0; what <= 12; what++) {
             sum = next(sum, t.state(what));
         }
-        for (int p = 0; p < 4; p++) {
+        for (int p = 0; p < t.state(1); p++) {
             for (int what = 0; what <= 3; what++) {
                 sum = next(sum, t.player(p, what));
             }
-            for (int k = 0; k < 12; k++) {
+            for (int k = 0; k < t.player(p, 0); k++) {
                 sum = next(sum, t.tile(p, k));
             }
         }
-        for (int train = 0; train <= 4; train++) {
+        for (int train = 0; train <= t.state(1); train++) {
             for (int what = 0; what <= 4; what++) {
                 sum = next(sum, t.train(train, what));
             }
         }
-        checks.same("above a long", sum.bitLength() > 64, true);
-        checks.same("its last 64 bits", t.checksum(), sum.longValue());
+        checks.same(name + ": the sum is above a long", sum.bitLength() > 64, true);
+        checks.same(name + ": its last 64 bits", t.checksum(), sum.longValue());
     }
 
     private static BigInteger next(BigInteger sum, int number) {
