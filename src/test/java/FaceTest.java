@@ -50,6 +50,7 @@ public final class FaceTest {
         constants();
         methods();
         noOtherMembers();
+        sizes();
         source();
         checks.end();
     }
@@ -115,11 +116,50 @@ public final class FaceTest {
         checks.same("classes inside at most 12", HubTrains.class.getDeclaredClasses().length <= 12, true);
     }
 
+    private static void sizes() {
+        sizesOf(HubTrains.class);
+        for (Class<?> inner : HubTrains.class.getDeclaredClasses()) {
+            sizesOf(inner);
+        }
+    }
+
+    private static void sizesOf(Class<?> type) {
+        int fields = 0;
+        for (Field field : type.getDeclaredFields()) {
+            int modifiers = field.getModifiers();
+            fields += Modifier.isStatic(modifiers) ? 0 : 1;
+            boolean constant = !Modifier.isStatic(modifiers) || Modifier.isFinal(modifiers);
+            checks.same("static fields are final: " + field, constant, true);
+        }
+        checks.same("at most 20 fields in " + type, fields <= 20, true);
+        for (Method method : type.getDeclaredMethods()) {
+            checks.same("at most 7 parameters in " + method, method.getParameterCount() <= 7, true);
+        }
+    }
+
+    /** Methods of the class stand 4 deep, those of the classes inside 8 deep, each up to its closing brace. */
+    private static void lengthsOfMethods(String text) {
+        int start = 0;
+        String end = "";
+        String[] lines = text.split("\n");
+        for (int k = 0; k < lines.length; k++) {
+            boolean opens = lines[k].matches(" {4}( {4})?\\S.*\\{") && !lines[k].contains(" class ");
+            if (end.isEmpty() && opens) {
+                start = k;
+                end = lines[k].substring(0, lines[k].indexOf(lines[k].strip())) + "}";
+            } else if (lines[k].equals(end)) {
+                checks.same("at most 60 lines: " + lines[start].strip(), k - start < 60, true);
+                end = "";
+            }
+        }
+    }
+
     private static void source() throws IOException {
         String text = Files.readString(Path.of("src/main/java/HubTrains.java"), StandardCharsets.US_ASCII);
         for (String word : FORBIDDEN) {
             checks.same("the source has " + word, text.contains(word), false);
         }
+        lengthsOfMethods(text);
         for (String line : text.split("\n")) {
             if (line.startsWith("import ")) {
                 boolean allowed = line.equals("import java.util.Arrays;")

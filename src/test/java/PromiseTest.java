@@ -485,7 +485,7 @@ public final class PromiseTest extends Scenes {
         checks.same("19: stays on turn", t.state(4) + " " + t.state(6), "0 2");
         checks.same("19: a draw counts anew behind a double", t.state(5) + " " + t.draw(), "0 1");
         checks.same("19: covered", t.play(1, 2) + " " + t.state(6) + " " + t.state(4), "0 -1 1");
-        coverOnAClosedTrain();
+        coverOnTheTrainOfAnother();
         doubleAsTheLast();
         drawnThenDouble();
         HubTrains wrong = Checks.loaded(ROWS);
@@ -501,8 +501,8 @@ public final class PromiseTest extends Scenes {
         checks.same("19: no change to undo but the load", wrong.undo(), 0);
     }
 
-    /** A closed train of another can be played on if the double on it is uncovered. */
-    private static void coverOnAClosedTrain() {
+    /** Who leaves a double on the own train passes, which opens it; the next one has to cover it there. */
+    private static void coverOnTheTrainOfAnother() {
         HubTrains t = Checks.loaded("trains 3 3 3; hub 0; give 0 0-1 1-1 3-3; give 1 1-2 2-2 0-3; give 2 0-2 1-3 2-3;");
         t.play(1, 0);
         t.play(3, 1);
